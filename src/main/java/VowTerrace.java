@@ -988,8 +988,8 @@ public final class VowTerrace {
             toldHouses = 0;
             toldLawyers = 0;
             toldHabits = 0;
-            greatestHouse = SEA;
-            greatestDeed = SEA;
+            greatestHouse = -1;
+            greatestDeed = -1;
             readToken();
             // a line has more than one byte
             for (int i = 0; i < TAPE_BYTES && found == 0 && token != THE_END; i++) {
@@ -1057,7 +1057,8 @@ public final class VowTerrace {
             t.purse[h] = needNumber(0, MOST_PURSE);
             readToken();
             for (int i = 0; i < TAPE_BYTES && found == 0 && token == NUMBER; i++) {
-                t.skills[h] = tellOnce(t.skills[h], deedHere());
+                int d = noteDeed(numberHere(0, MOST_DEEDS - 1));
+                t.skills[h] = tellOnce(t.skills[h], d);
                 readToken();
             }
         }
@@ -1124,11 +1125,10 @@ public final class VowTerrace {
 
         private int needDeed() {
             readToken();
-            return deedHere();
+            return noteDeed(numberHere(0, MOST_DEEDS - 1));
         }
 
-        private int deedHere() {
-            int d = numberHere(0, MOST_DEEDS - 1);
+        private int noteDeed(int d) {
             greatestDeed = Math.max(greatestDeed, d);
             return d;
         }
