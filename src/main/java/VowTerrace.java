@@ -657,13 +657,11 @@ public final class VowTerrace {
             failed = other.failed;
         }
 
-        boolean addDeed(int price) {
-            if (deeds >= MOST_DEEDS) {
-                return false;
+        void addDeed(int price) {
+            if (deeds < MOST_DEEDS) {
+                costs[deeds] = price;
+                deeds++;
             }
-            costs[deeds] = price;
-            deeds++;
-            return true;
         }
 
         void setHabit(int h, int kind, int d, int odds) {

@@ -23,7 +23,7 @@ public final class BringEdgeTest {
         Due.finish("BringEdgeTest");
     }
 
-    /** Where a VOW comes down behind its last DAY, step by step; a set of HOUSES as bits. */
+    /** Where a VOW comes down behind its last DAY, step by step; LAWYERS as bits. */
     private static TreeSet<Integer> ends(int from, int kind, int deep, int houses, boolean ring, int lawyers) {
         TreeSet<Integer> at = new TreeSet<>(List.of(from));
         for (int i = 0; i <= deep; i++) {
@@ -73,9 +73,13 @@ public final class BringEdgeTest {
                     VowTerrace x = Due.told((ring ? "ring " : "row ") + houses + ";" + ALL_DEEDS);
                     for (int h = 0; h < houses; h++) {
                         x.lawyer(h, (lawyers >> h & 1) == 1);
+                        x.can(h, 0, true);
                         x.can(h, 4, true);
                     }
                     for (int h = 0; h < houses; h++) {
+                        TreeSet<Integer> first = numbers(h, 0, houses, ring, lawyers);
+                        Due.is("ways(h, 0, 0)", x.ways(h, 0, 0), first.size());
+                        Due.is("ways(h, 0, 1)", x.ways(h, 0, 1), first.isEmpty() ? NONE : first.first());
                         TreeSet<Integer> all = numbers(h, 4, houses, ring, lawyers);
                         Due.is("ways(h, 4, 0)", x.ways(h, 4, 0), all.size());
                         Due.is("ways(h, 4, 1)", x.ways(h, 4, 1), all.isEmpty() ? NONE : all.first());
